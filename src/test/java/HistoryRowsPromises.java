@@ -768,6 +768,7 @@ public final class HistoryRowsPromises {
     HistoryRows x = fiveHeights();
     x.rule(2); x.prune(2); x.lay(0, 5); x.lay(4, 6);
     x.write(9, 3, 5); x.write(9, 30, 5);
+    x.replay(3, 5); x.differs(4, 5); x.proof(3, 5, 0);
     due("clear()", x.clear(), 5);
     newObject(x);
     due("clear() again", x.clear(), 0);
