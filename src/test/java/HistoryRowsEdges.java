@@ -617,6 +617,12 @@ public final class HistoryRowsEdges {
     due("prune(5) after forget", x.prune(5), 0);
     due("prune(6)", x.prune(6), 1);
     due("count(5)", x.count(5), 6);
+    HistoryRows y = withHeights(6);
+    y.rule(2);
+    due("prune(4)", y.prune(4), 2);
+    y.rule(0);
+    due("prune(3): 0 and 2, though 3 itself is pruned", y.prune(3), 2);
+    due("archive(1, 1)", y.archive(1, 1), 2);
   }
 
   private static void neededAtItsHeight() {
@@ -811,6 +817,26 @@ public final class HistoryRowsEdges {
     due("archive(0, 0): numbers begin anew", x.archive(0, 0), 1);
     due("bring(): only what came after", x.bring(), 1);
     dueCounts(x, 7, 0, 2, 0, 0, 6);
+    rowsAfterForgottenOnes();
+  }
+
+  private static void rowsAfterForgottenOnes() {
+    HistoryRows x = withRowsAt(2, 1, 2);
+    x.write(30, 4, 40); x.write(31, 5, 50);
+    x.seal();
+    x.write(32, 6, 60);
+    x.prune(3);
+    due("forget()", x.forget(), 1);
+    int[] heights = {2, 3, 3}, calls = {2, 30, 31}, leaves = {0, 4, 5}, values = {2, 40, 50};
+    for (int k = 0; k < 3; k++) {
+      due("row(" + leaves[k] + ", 0, 0)", x.row(leaves[k], 0, 0), heights[k]);
+      due("row(" + leaves[k] + ", 0, 1)", x.row(leaves[k], 0, 1), calls[k]);
+      due("row(" + leaves[k] + ", 1, 0)", x.row(leaves[k], 1, 0), NONE);
+      due("at(" + leaves[k] + ", 3)", x.at(leaves[k], 3), values[k]);
+    }
+    due("seal()", x.seal(), 4);
+    due("blame(6, 4, 0)", x.blame(6, 4, 0), 32);
+    due("replay(3, 4)", x.replay(3, 4), x.digest(4));
   }
 
   private static void forgottenHeightsStayPruned() {

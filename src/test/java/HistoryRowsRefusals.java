@@ -170,11 +170,14 @@ public final class HistoryRowsRefusals {
       "seal() " + each("blame(#, " + up + ", 0) blame(#, " + up + ", 1)", 0, 31) + "seal() seal()",
       "write(0, 5, 1) write(599, 5, 1) write(600, 5, 1) write(601, 5, 3) write(999, 5, 4) count(1) seal() " + COUNTS,
       each("write(999, 5, #)", 0, 61) + "count(1) now(5) seal() " + COUNTS,
-      each("bring() count(2) count(3) count(4) count(5) at(3, 1) row(3, 1, 0)", 0, 9),
+      each("bring() count(2) count(3) count(4) count(5) at(3, 1) row(3, 1, 0) row(3, 0, 1)", 0, 9),
       "forget() " + COUNTS + "bring() back(1) back(" + height + ") " + COUNTS + each("now(#)", 0, 31),
       "prune(" + height + ") archive(0, 0) archive(0, 1) archive(1, 0) " + COUNTS + each("pruned(#)", 0, Math.min(30, height)),
       pruneAll + COUNTS + "bring() " + COUNTS + each("at(3, #)", 0, 5),
       "bring() back(0) " + COUNTS + "seal() digest(1) back(2) " + COUNTS,
+      "forget() seal() " + each("blame(#, " + up + ", 0)", 0, 31) + each("row(#, 0, 1)", 0, 9) + COUNTS,
+      pruneAll + "forget() seal() " + each("blame(#, " + up + ", 0)", 0, 31) + COUNTS,
+      "write(999, 1, 13) seal() " + each("blame(#, " + up + ", 0)", 0, 31) + COUNTS,
       "forget() seal() " + COUNTS + "prune(" + height + ") archive(0, 0) bring() " + COUNTS,
       "back(2) " + COUNTS + each("row(3, #, 0)", 0, 3) + "write(0, 3, 9) seal() blame(3, 3, 0) digest(3)",
       "clear() " + COUNTS + "rule(0) lay(0, 0) digest(0) now(3) write(0, 3, 1) seal()",
@@ -246,6 +249,8 @@ public final class HistoryRowsRefusals {
   private static final Scene steppedBack = new Scene("five heights and a step back to 2", HEIGHTS + SETTINGS + "back(2) " + OPEN);
   private static final Scene writes59 = new Scene("59 writes", HEIGHTS + each("write(600, 3, #)", 1, 59));
   private static final Scene writes60 = new Scene("60 writes", HEIGHTS + each("write(600, 3, #)", 1, 60));
+  private static final Scene writes60Spared =
+      new Scene("60 writes and an archive", HEIGHTS + SETTINGS + "prune(4) " + each("write(600, 3, #)", 1, 60));
   private static final Scene height199 = new Scene("height 199", HEIGHTS + each("seal()", 6, 199) + OPEN);
   private static final Scene height200 = new Scene("height 200", HEIGHTS + each("seal()", 6, 200) + SETTINGS + "prune(50) " + OPEN);
   private static final Scene height200Empty = new Scene("height 200 and no writes", HEIGHTS + each("seal()", 6, 200));
@@ -297,13 +302,16 @@ public final class HistoryRowsRefusals {
     refused(fresh, "write(1000, 0, 1)", OUTSIDE);
     refused(fresh, "write(low, 0, 1)", OUTSIDE);
     refused(fresh, "write(high, 0, 1)", OUTSIDE);
-    taken(plain, "write(600, 3, 70)", 3);
-    refused(plain, "write(599, 3, 70)", STATE);
-    refused(plain, "write(0, 3, 70)", STATE);
-    taken(plain, "write(999, 3, 1)", 3);
-    refused(plain, "write(1000, 3, 1)", OUTSIDE);
+    for (Scene scene : new Scene[] {plain, spared}) {
+      taken(scene, "write(600, 3, 70)", 3);
+      refused(scene, "write(599, 3, 70)", STATE);
+      refused(scene, "write(0, 3, 70)", STATE);
+      taken(scene, "write(999, 3, 1)", 3);
+      refused(scene, "write(1000, 3, 1)", OUTSIDE);
+    }
     taken(writes59, "write(600, 3, 77)", 60);
     refused(writes60, "write(600, 3, 77)", ROOM);
+    refused(writes60Spared, "write(600, 3, 77)", ROOM);
     refused(writes60, "write(999, 9, 77)", ROOM);
     refused(writes60, "write(600, 3, 60)", ROOM);
   }
@@ -323,32 +331,35 @@ public final class HistoryRowsRefusals {
   }
 
   /** Tries a call with # in a leaf's place at all that is no leaf. */
-  private static void noLeaf(Scene scene, String form) {
-    for (String leaf : new String[] {"-1", "32", "low", "high"}) refused(scene, form.replace("#", leaf), UNKNOWN);
+  private static void noLeaf(String form) {
+    for (String leaf : new String[] {"-1", "32", "low", "high"}) {
+      refused(plain, form.replace("#", leaf), UNKNOWN);
+      refused(spared, form.replace("#", leaf), UNKNOWN);
+    }
   }
 
   private static void leaves() {
     taken(plain, "write(600, 0, 5)", 3);
     taken(plain, "write(600, 31, 5)", 3);
-    noLeaf(plain, "write(600, #, 5)");
+    noLeaf("write(600, #, 5)");
     String[] longs = {"at(#, 5)", "now(#)"};
     for (String form : longs) {
       asked(plain, form.replace("#", "0"), 0);
       asked(plain, form.replace("#", "31"), 0);
-      noLeaf(plain, form);
+      noLeaf(form);
     }
     String[] noRows = {"blame(#, 5, 0)", "blame(#, 5, 1)", "row(#, 0, 0)", "row(#, 0, 1)", "first(#, 5)"};
     for (String form : noRows) {
       asked(plain, form.replace("#", "0"), NONE);
       asked(plain, form.replace("#", "31"), NONE);
-      noLeaf(plain, form);
+      noLeaf(form);
     }
     asked(plain, "proof(0, 0, 0)", 1);
     asked(plain, "proof(31, 0, 0)", 30);
-    noLeaf(plain, "proof(#, 0, 0)");
+    noLeaf("proof(#, 0, 0)");
     asked(plain, "proves(0, 5, 0)", 0);
     asked(plain, "proves(31, 5, 0)", 0);
-    noLeaf(plain, "proves(#, 5, 0)");
+    noLeaf("proves(#, 5, 0)");
   }
 
   /** Tries a call with # in a height's place below 0 and above the scene's height. */
@@ -386,6 +397,7 @@ public final class HistoryRowsRefusals {
     for (String form : forms) {
       noHeight(fresh, form);
       noHeight(plain, form);
+      noHeight(spared, form);
       noHeight(steppedBack, form);
       refused(height200, form.replace("#", "201"), UNKNOWN);
       refused(steppedBack, form.replace("#", "5"), UNKNOWN);
@@ -397,34 +409,37 @@ public final class HistoryRowsRefusals {
   }
 
   /** Tries a call with # in the place of a number whose bounds are 0 and most. */
-  private static void noNumber(Scene scene, String form, int most) {
-    for (String n : new String[] {"-1", "low", "high", "" + (most + 1)}) refused(scene, form.replace("#", n), OUTSIDE);
+  private static void noNumber(String form, int most) {
+    for (String n : new String[] {"-1", "low", "high", "" + (most + 1)}) {
+      refused(spared, form.replace("#", n), OUTSIDE);
+      if (!form.startsWith("archive")) refused(plain, form.replace("#", n), OUTSIDE);
+    }
   }
 
   private static void numbers() {
     asked(plain, "blame(3, 4, 0)", 40);
     asked(plain, "blame(3, 4, 1)", 4);
-    noNumber(plain, "blame(3, 4, #)", 1);
-    noNumber(plain, "blame(0, 0, #)", 1);
+    noNumber("blame(3, 4, #)", 1);
+    noNumber("blame(0, 0, #)", 1);
     taken(plain, "rule(0)", 2);
     taken(plain, "rule(100)", 2);
-    noNumber(plain, "rule(#)", 100);
+    noNumber("rule(#)", 100);
     asked(spared, "archive(0, 0)", 1);
     asked(spared, "archive(0, 1)", 2);
-    noNumber(spared, "archive(0, #)", 1);
+    noNumber("archive(0, #)", 1);
     asked(plain, "proof(3, 0, 0)", 2);
     asked(fresh, "proof(0, 0, 4)", 533668773L);
-    noNumber(plain, "proof(3, 0, #)", 4);
+    noNumber("proof(3, 0, #)", 4);
     taken(plain, "lay(0, 0)", 11);
     taken(plain, "lay(4, 0)", 15);
-    noNumber(plain, "lay(#, 0)", 4);
+    noNumber("lay(#, 0)", 4);
     asked(plain, "row(3, 1, 0)", 3);
     asked(plain, "row(3, 1, 1)", 30);
-    noNumber(plain, "row(3, 1, #)", 1);
-    noNumber(plain, "row(3, 9, #)", 1);
+    noNumber("row(3, 1, #)", 1);
+    noNumber("row(3, 9, #)", 1);
     int[] counts = {5, 2, 4, 1, 1, 2};
     for (int what = 0; what <= 5; what++) asked(spared, "count(" + what + ")", counts[what]);
-    noNumber(spared, "count(#)", 5);
+    noNumber("count(#)", 5);
   }
 
   private static void archives() {
