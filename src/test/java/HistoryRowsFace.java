@@ -67,7 +67,7 @@ public final class HistoryRowsFace {
     sizes(face);
     for (Class<?> inside : face.getDeclaredClasses()) {
       check(Modifier.isStatic(inside.getModifiers()), inside.getName() + " is static");
-      check(!Modifier.isPublic(inside.getModifiers()) && !Modifier.isProtected(inside.getModifiers()), inside.getName() + " is not public");
+      check((inside.getModifiers() & (Modifier.PUBLIC | Modifier.PROTECTED)) == 0, inside.getName() + " is not public");
       sizes(inside);
     }
     check(face.getDeclaredClasses().length < 12, "twelve classes at most");
